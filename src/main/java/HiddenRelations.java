@@ -563,13 +563,16 @@ public final class HiddenRelations {
 
         /** By Fermat: the power p - 2 of a number that isn't 0 makes 1 with it. */
         private int reciprocal(int v) {
+            if (p < 2) {
+                return 0;
+            }
             int result = 1;
-            int square = taken(v);
+            int square = v;
             for (int e = p - 2; e > 0; e >>= 1) {
                 if ((e & 1) != 0) {
-                    result = taken(result * square);
+                    result = result * square % p;
                 }
-                square = taken(square * square);
+                square = square * square % p;
             }
             return result;
         }
@@ -831,7 +834,8 @@ public final class HiddenRelations {
 
     /**
      * The one reduced basis of all rows by which parts vanish to an order. While it is built, row i
-     * has its pivot in place i, so that its height is the degree there and the lift together.
+     * has its pivot in place i, so that its height is the degree there and the lift together, and 1
+     * stays in front of the highest power there, as only multiples of lower rows are taken from it.
      */
     private static final class Basis {
         /** No height is above 32 + 9, so no degree on the way is. */
@@ -859,9 +863,6 @@ public final class HiddenRelations {
             }
             for (int k = 0; k < order && k < TERMS; k++) {
                 clearTerm(k);
-            }
-            for (int i = 0; i < size; i++) {
-                makeMonic(i);
             }
             for (int i = 0; i < size; i++) {
                 reduce(i);
@@ -945,16 +946,6 @@ public final class HiddenRelations {
             }
             for (int k = up; k < TERMS; k++) {
                 rests[i][k] = numbers.taken(rests[i][k] - times * rests[other][k - up]);
-            }
-        }
-
-        private void makeMonic(int i) {
-            int one = numbers.reciprocal(coefficient(i, i, degrees[i]));
-            for (int k = 0; k < MOST_CHOSEN * WIDTH; k++) {
-                rows[i][k] = numbers.taken(rows[i][k] * one);
-            }
-            for (int k = 0; k < TERMS; k++) {
-                rests[i][k] = numbers.taken(rests[i][k] * one);
             }
         }
 

@@ -11,6 +11,7 @@ public final class ChoiceTest {
         wrong();
         comes();
         relates();
+        follows();
         manyBases();
         Check.ending("ChoiceTest");
     }
@@ -124,6 +125,7 @@ public final class ChoiceTest {
         x.mix(0, 0, 1, 0, 1);
         Check.due("of like rows the first", x.told(5), 0);
         Check.due("of nothing all", x.told(2), 0);
+        Check.due("the greatest too", x.told(4), 0);
         Check.due("all zeros", x.row(1, 2), 32);
     }
 
@@ -237,6 +239,11 @@ public final class ChoiceTest {
         x.order(8);
         x.put(1, 15, -1);
         Check.due("- x^7 f_1", x.relates(1), 1);
+        x.term(1, 7, 0);
+        x.put(1, 15, 0);
+        x.order(32);
+        Check.due("all terms", x.relates(1), 1);
+        x.term(1, 7, 1);
         x.sheet(2, 1, 9);
         x.move(1, 0, 2, 0, 9);
         x.order(7);
@@ -259,6 +266,47 @@ public final class ChoiceTest {
         x.put(0, 31, 0);
         x.put(0, 32, 1);
         Check.due("the first that is not", x.relates(0), 0);
+    }
+
+    /** That the basis is of the series and the choice as they are, behind each call that changes them. */
+    private static void follows() {
+        HiddenRelations x = new HiddenRelations();
+        x.order(32);
+        x.term(1, 3, 1);
+        x.term(2, 0, 1);
+        x.term(2, 7, 1);
+        zerosOf(x, "term", x.term(0, 5, 1), 5);
+        zerosOf(x, "mix", x.mix(1, 1, 1, 1, 0), 3);
+        zerosOf(x, "times", x.times(1, 0, 0), 6);
+        zerosOf(x, "inverse", x.inverse(2, 0), 0);
+        zerosOf(x, "shift", x.shift(0, 2, 0), 2);
+        x.term(0, 2, 97);
+        Check.due("nothing of x^2", x.zeros(0), 9);
+        x.term(0, 0, 5);
+        zerosOf(x, "term at 0", x.term(0, 2, 0), 0);
+        zerosOf(x, "weigh", x.weigh(0, 0), 9);
+        x.feed(4, 'x' | '^' << 8 | '4' << 16 | ' ' << 24);
+        zerosOf(x, "text", x.text(0), 4);
+        x.order(5);
+        zerosOf(x, "order", x.order(32), 4);
+        zerosOf(x, "comes", x.comes(0, 0), 32);
+        x.guess(2, 0, 0, 1, 9);
+        zerosOf(x, "term again", x.term(0, 6, 1), 6);
+        zerosOf(x, "guess", x.guess(2, 0, 0, 1, 9), 6);
+        zerosOf(x, "toldOn", x.toldOn(0, 0), 0);
+        x.sheet(0, 1, 9);
+        x.put(0, 8, 1);
+        zerosOf(x, "loads", x.loads(0, 0), 8);
+        zerosOf(x, "choose", x.choose(2), 3);
+        x.lift(1, 7);
+        Check.due("height behind lift", x.row(0, 1), 29 + 7);
+        zerosOf(x, "field", x.field(97), 32);
+    }
+
+    /** The choice is of one series, the order 32: by its zeros the basis is told. */
+    private static void zerosOf(HiddenRelations x, String call, int answer, int zeros) {
+        Check.holds(call + " answers", answer >= 0);
+        Check.due("degree behind " + call, x.row(0, 0), 32 - zeros);
     }
 
     /** That the basis is what its definition says: all that the rows must be, and as many terms of it as there can be. */

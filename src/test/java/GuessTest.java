@@ -104,7 +104,9 @@ public final class GuessTest {
         proof(x, 1, new int[] {56}, new int[] {1});
         x.choose(12);
         x.order(3);
-        x.lift(0, 9);
+        x.lift(2, 9);
+        Check.due("a height", x.told(3), 0);
+        Check.due("another", x.told(4), 9);
         Check.due("shifts do not matter", x.guess(1, 0, 0, 1, 0), 2);
         Check.due("the choice stays", x.count(5), 12);
         Check.due("its basis stays", x.row(1, 0), 0);

@@ -2,7 +2,8 @@ import java.util.Random;
 
 /**
  * Long runs of calls on the program and on its twin, each answer compared; at the end of a run all
- * that calls can see of the two. So what refused calls change is seen too.
+ * that calls can see of the two. So what refused calls change is seen too. A run goes beyond the
+ * 512 calls that the document promises, as the program has no such end.
  */
 public final class TwinTest {
     private static final int CALLS = 34;
