@@ -33,13 +33,13 @@ public final class HiddenRelations {
     private final int[] factor = new int[TERMS];
     private final int[] sum = new int[TERMS];
 
+    private final Ledger ledger = new Ledger();
     private final Sheet[] sheets = new Sheet[ALL_SHEETS];
 
     public HiddenRelations() {
         for (int i = 0; i < ALL_SHEETS; i++) {
             sheets[i] = new Sheet();
         }
-        Ledger.ONE.empty();
     }
 
     // ---- the field, series
@@ -252,7 +252,7 @@ public final class HiddenRelations {
         if (used < 1 || used > TERMS || high < 0 || high > MOST_HEIGHT) {
             return BAD;
         }
-        Place place = Ledger.ONE.freePlace();
+        Place place = ledger.freePlace();
         if (place == null) {
             return FULL;
         }
@@ -269,14 +269,14 @@ public final class HiddenRelations {
         place.used = used;
         place.p = numbers.p;
         place.keepRow(basis, least);
-        return Ledger.ONE.giveNumber(place);
+        return ledger.giveNumber(place);
     }
 
     public int certificate(int number, int what) {
         if (what < 0 || what > 5) {
             return BAD;
         }
-        Place place = Ledger.ONE.find(number);
+        Place place = ledger.find(number);
         if (place == null) {
             return NONE;
         }
@@ -291,7 +291,7 @@ public final class HiddenRelations {
     }
 
     public int proof(int number, int j, int k) {
-        Place place = Ledger.ONE.find(number);
+        Place place = ledger.find(number);
         if (place == null) {
             return NONE;
         }
@@ -305,7 +305,7 @@ public final class HiddenRelations {
         if (!isSeries(series)) {
             return BAD;
         }
-        Place place = Ledger.ONE.find(number);
+        Place place = ledger.find(number);
         if (place == null) {
             return NONE;
         }
@@ -325,7 +325,7 @@ public final class HiddenRelations {
         if (!isSeries(to)) {
             return BAD;
         }
-        Place place = Ledger.ONE.find(number);
+        Place place = ledger.find(number);
         if (place == null) {
             return NONE;
         }
@@ -341,16 +341,16 @@ public final class HiddenRelations {
     }
 
     public int strike(int number) {
-        Place place = Ledger.ONE.find(number);
+        Place place = ledger.find(number);
         if (place == null) {
             return NONE;
         }
         place.kept = false;
-        return Ledger.ONE.size();
+        return ledger.size();
     }
 
     public int listed(int i) {
-        return Ledger.ONE.numberInTurn(i);
+        return ledger.numberInTurn(i);
     }
 
     // ---- rows, counts
@@ -444,9 +444,9 @@ public final class HiddenRelations {
         switch (what) {
             case 0: return numbers.p;
             case 1: return reader.size;
-            case 2: return Ledger.ONE.size();
+            case 2: return ledger.size();
             case 3: return sheetsThere();
-            case 4: return Ledger.ONE.given;
+            case 4: return ledger.given;
             case 5: return chosen;
             case 6: return seriesNotZero();
             default: return BAD;
@@ -996,44 +996,42 @@ public final class HiddenRelations {
     }
 
     /**
-     * The ledger, one for all objects of the class: it stands in enum constants as there is no other
-     * thing that all objects reach and that the language lets change.
+     * The certificates that are kept. Each object has a ledger of its own: one for all objects, as
+     * the document tells it, would be static state, which rule 5 of LANGUAGE.md rules out.
      */
-    private enum Ledger {
-        ONE;
+    private static final class Ledger {
+        private static final int ROOM = 8;
 
-        private static final Place[] PLACES = Place.values();
-
+        private final Place[] places = new Place[ROOM];
         private int given;
 
-        private void empty() {
-            given = 0;
-            for (int i = 0; i < PLACES.length; i++) {
-                PLACES[i].kept = false;
+        private Ledger() {
+            for (int i = 0; i < ROOM; i++) {
+                places[i] = new Place();
             }
         }
 
         private int size() {
             int kept = 0;
-            for (int i = 0; i < PLACES.length; i++) {
-                kept += PLACES[i].kept ? 1 : 0;
+            for (int i = 0; i < ROOM; i++) {
+                kept += places[i].kept ? 1 : 0;
             }
             return kept;
         }
 
         private Place freePlace() {
-            for (int i = 0; i < PLACES.length; i++) {
-                if (!PLACES[i].kept) {
-                    return PLACES[i];
+            for (int i = 0; i < ROOM; i++) {
+                if (!places[i].kept) {
+                    return places[i];
                 }
             }
             return null;
         }
 
         private Place find(int number) {
-            for (int i = 0; i < PLACES.length; i++) {
-                if (PLACES[i].kept && PLACES[i].number == number) {
-                    return PLACES[i];
+            for (int i = 0; i < ROOM; i++) {
+                if (places[i].kept && places[i].number == number) {
+                    return places[i];
                 }
             }
             return null;
@@ -1048,9 +1046,9 @@ public final class HiddenRelations {
 
         /** Numbers grow as certificates come, so the i-th has i lower ones. */
         private int numberInTurn(int turn) {
-            for (int i = 0; i < PLACES.length; i++) {
-                if (PLACES[i].kept && lowerThan(PLACES[i].number) == turn) {
-                    return PLACES[i].number;
+            for (int i = 0; i < ROOM; i++) {
+                if (places[i].kept && lowerThan(places[i].number) == turn) {
+                    return places[i].number;
                 }
             }
             return NONE;
@@ -1058,20 +1056,18 @@ public final class HiddenRelations {
 
         private int lowerThan(int number) {
             int lower = 0;
-            for (int i = 0; i < PLACES.length; i++) {
-                lower += PLACES[i].kept && PLACES[i].number < number ? 1 : 0;
+            for (int i = 0; i < ROOM; i++) {
+                lower += places[i].kept && places[i].number < number ? 1 : 0;
             }
             return lower;
         }
     }
 
-    /** Where the ledger keeps one certificate. */
-    private enum Place {
-        FIRST, SECOND, THIRD, FOURTH, FIFTH, SIXTH, SEVENTH, EIGHTH;
-
+    /** Where a ledger keeps one certificate; used anew when that is struck, so that a guess makes no object. */
+    private static final class Place {
         private static final int WIDTH = MOST_HEIGHT + 1;
-        private static final int DIGIT = 256;
 
+        private final int[][] coefficients = new int[MOST_CHOSEN][WIDTH];
         private boolean kept;
         private int number;
         private int kind;
@@ -1080,29 +1076,21 @@ public final class HiddenRelations {
         private int height;
         private int holds;
         private int p;
-        /** The coefficients, two characters each, as an enum may have no array. */
-        private String coefficients = "";
 
         private void keepRow(Basis basis, int row) {
             polynomials = basis.size;
             height = basis.height(row);
             holds = Numbers.leadingZeros(basis.rests[row]);
-            StringBuilder written = new StringBuilder();
-            for (int j = 0; j < polynomials; j++) {
+            for (int j = 0; j < polynomials && j < MOST_CHOSEN; j++) {
                 for (int k = 0; k < WIDTH; k++) {
-                    int v = basis.coefficient(row, j, k);
-                    written.append((char) (v / DIGIT)).append((char) (v % DIGIT));
+                    coefficients[j][k] = basis.coefficient(row, j, k);
                 }
             }
-            coefficients = written.toString();
         }
 
         private int coefficient(int j, int k) {
-            int i = 2 * (j * WIDTH + k);
-            if (i < 0 || i + 1 >= coefficients.length()) {
-                return 0;
-            }
-            return coefficients.charAt(i) * DIGIT + coefficients.charAt(i + 1);
+            boolean there = j >= 0 && j < polynomials && j < MOST_CHOSEN && k >= 0 && k < WIDTH;
+            return there ? coefficients[j][k] : 0;
         }
 
         private void copyPolynomial(int j, int[] to) {

@@ -1,8 +1,8 @@
-/** Promises 1 and 35: what a new object is like, the one ledger of all objects, and the counts. */
+/** Promises 1 and 35: what a new object is like, also beside others, and the counts. */
 public final class NewObjectTest {
     public static void main(String[] args) {
         fresh();
-        oneLedger();
+        twoObjects();
         counts();
         Check.ending("NewObjectTest");
     }
@@ -43,32 +43,30 @@ public final class NewObjectTest {
         return x;
     }
 
-    private static void oneLedger() {
+    /** Rule 5 of LANGUAGE.md leaves no ledger that all objects share: each answers as if alone. */
+    private static void twoObjects() {
         HiddenRelations a = used();
-        Check.due("two", a.count(2), 2);
         HiddenRelations b = new HiddenRelations();
-        Check.due("emptied for the older object", a.count(2), 0);
-        Check.due("numbers begin anew for it", a.count(4), 0);
-        Check.due("its other state stays", a.count(0), 7);
-        Check.due("no such number", a.certificate(0, 0), -3);
-        Check.due("the older object's guess", a.guess(3, 2, 1, 8, 9), 0);
-        Check.due("seen by the newer", b.certificate(0, 0), 2);
-        Check.due("with its p", b.certificate(0, 5), 7);
-        Check.due("which is not that of the newer", b.test(0, 0), -2);
-        Check.due("the newer's guess", b.guess(0, 0, 0, 1, 9), 1);
-        Check.due("seen by the older", a.listed(1), 1);
-        Check.due("also its p", a.certificate(1, 5), 97);
-        Check.due("struck by the older", a.strike(1), 1);
-        Check.due("gone for the newer", b.listed(1), -3);
-        Check.due("given in all", b.count(4), 2);
+        Check.due("the newer's is empty", b.count(2), 0);
+        Check.due("it gave no number", b.count(4), 0);
+        Check.due("no such number there", b.certificate(0, 0), -3);
+        Check.due("the older's stays", a.count(2), 2);
+        Check.due("with what it gave", a.count(4), 2);
+        Check.due("with its p", a.certificate(1, 5), 7);
+        Check.due("the newer's guess", b.guess(3, 2, 1, 8, 9), 0);
+        Check.due("the newer's kind", b.certificate(0, 0), 2);
+        Check.due("the newer's p", b.certificate(0, 5), 97);
+        Check.due("the older's kind", a.certificate(0, 0), 0);
+        Check.due("the older's guess", a.guess(0, 0, 0, 1, 9), 2);
+        Check.due("struck by the older", a.strike(0), 2);
+        Check.due("the newer's stays", b.listed(0), 0);
         for (int i = 0; i < 7; i++) {
-            Check.due("numbered on", (i % 2 == 0 ? a : b).guess(0, 0, 0, 1, 9), 2 + i);
+            Check.due("numbered on", b.guess(0, 0, 0, 1, 9), 1 + i);
         }
-        Check.due("full for the older", a.guess(0, 0, 0, 1, 9), -4);
         Check.due("full for the newer", b.guess(0, 0, 0, 1, 9), -4);
+        Check.due("not for the older", a.guess(0, 0, 0, 1, 9), 3);
         new HiddenRelations();
-        Check.due("empty for the oldest", a.listed(0), -3);
-        Check.due("numbers at 0 again", b.guess(0, 0, 0, 1, 9), 0);
+        Check.due("a third one empties neither", a.count(2) * 10 + b.count(2), 38);
     }
 
     private static void counts() {

@@ -7,9 +7,6 @@ import java.util.List;
  * descent in two rounds, the basis monomial by monomial with linear algebra.
  */
 final class Twin {
-    private static final List<Kept> LEDGER = new ArrayList<>();
-    private static int given = 0;
-
     private static final class Kept {
         int number;
         int kind;
@@ -35,11 +32,8 @@ final class Twin {
     private int set = 1;
     private final int[] lifts = new int[6];
     private int order = 8;
-
-    Twin() {
-        LEDGER.clear();
-        given = 0;
-    }
+    private final List<Kept> ledger = new ArrayList<>();
+    private int given = 0;
 
     // arithmetic
 
@@ -554,7 +548,7 @@ final class Twin {
         if (no(s, 6) || no(kind, 3) || kind != 0 && no(r - 1, 3) || no(used - 1, 32) || no(high, 10)) {
             return -1;
         }
-        if (LEDGER.size() >= 8) {
+        if (ledger.size() >= 8) {
             return -4;
         }
         long[][] f = kindSeries(kind, kind == 0 ? 2 : r + 1, series[s]);
@@ -571,12 +565,12 @@ final class Twin {
         kept.row = rows.of[best];
         kept.holds = leading(summed(kept.row, f));
         kept.p = p;
-        LEDGER.add(kept);
+        ledger.add(kept);
         return kept.number;
     }
 
-    private static Kept find(int number) {
-        for (Kept kept : LEDGER) {
+    private Kept find(int number) {
+        for (Kept kept : ledger) {
             if (kept.number == number) {
                 return kept;
             }
@@ -639,12 +633,12 @@ final class Twin {
         if (c == null) {
             return -3;
         }
-        LEDGER.remove(c);
-        return LEDGER.size();
+        ledger.remove(c);
+        return ledger.size();
     }
 
     int listed(int i) {
-        return no(i, LEDGER.size()) ? -3 : LEDGER.get(i).number;
+        return no(i, ledger.size()) ? -3 : ledger.get(i).number;
     }
 
     // rows
@@ -755,7 +749,7 @@ final class Twin {
         for (int s = 0; s < 6; s++) {
             some |= leading(series[s]) < 32 ? 1 << s : 0;
         }
-        int[] all = {p, tape.length(), LEDGER.size(), there, given, set, some};
+        int[] all = {p, tape.length(), ledger.size(), there, given, set, some};
         return no(what, 7) ? -1 : all[what];
     }
 }

@@ -14,6 +14,8 @@ public final class TwinTest {
     private final int[] primes = {2, 3, 5, 7, 97, 101, 991, 997};
     private HiddenRelations x;
     private Twin twin;
+    private HiddenRelations resting;
+    private Twin restingTwin;
 
     private TwinTest(long seed) {
         random = new Random(seed);
@@ -31,11 +33,28 @@ public final class TwinTest {
     private void run() {
         x = new HiddenRelations();
         twin = new Twin();
+        resting = new HiddenRelations();
+        restingTwin = new Twin();
         int wild = random.nextInt(4) == 0 ? 4 : 25;
-        for (int call = 0; call < 400; call++) {
+        for (int call = 0; call < 600; call++) {
+            if (random.nextInt(40) == 0) {
+                takeTheOther();
+            }
             one(random.nextInt(CALLS), wild);
         }
         everything();
+        takeTheOther();
+        everything();
+    }
+
+    /** Two objects live at once, and what one is called must not change what the other answers. */
+    private void takeTheOther() {
+        HiddenRelations called = x;
+        Twin calledTwin = twin;
+        x = resting;
+        twin = restingTwin;
+        resting = called;
+        restingTwin = calledTwin;
     }
 
     /** A number mostly from low to high, now and then any other. */
