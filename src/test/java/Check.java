@@ -2,8 +2,14 @@
 final class Check {
     private static int wrong = 0;
     private static int looked = 0;
+    private static String test = "";
 
     private Check() {
+    }
+
+    /** What stands ahead of each call that is printed from now on. */
+    static void in(String name) {
+        test = name;
     }
 
     static void due(String call, long got, long want) {
@@ -11,13 +17,25 @@ final class Check {
         if (got != want) {
             wrong++;
             if (wrong <= 40) {
-                System.out.println(call + " answered " + got + ", due is " + want);
+                System.out.println(test + call + " answered " + got + ", due is " + want);
             }
         }
     }
 
     static void holds(String what, boolean so) {
         due(what, so ? 1 : 0, 1);
+    }
+
+    /** What get throws: 1 IllegalArgumentException, 2 IllegalStateException, 3 IndexOutOfBoundsException, 0 nothing, 4 another. */
+    static int thrown(HiddenRelations x, int row, int i) {
+        try {
+            x.get(row, i);
+        } catch (RuntimeException e) {
+            Class<?> c = e.getClass();
+            return c == IllegalArgumentException.class ? 1 : c == IllegalStateException.class ? 2
+                : c == IndexOutOfBoundsException.class ? 3 : 4;
+        }
+        return 0;
     }
 
     /** Feeds a text and has it read; the text's signs are bytes. */

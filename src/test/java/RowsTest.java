@@ -9,20 +9,6 @@ public final class RowsTest {
         Check.ending("RowsTest");
     }
 
-    /** What get throws: 1 IllegalArgumentException, 2 IllegalStateException, 3 IndexOutOfBoundsException, 0 nothing. */
-    private static int thrown(HiddenRelations x, int row, int i) {
-        try {
-            x.get(row, i);
-        } catch (IllegalArgumentException e) {
-            return e.getClass() == IllegalArgumentException.class ? 1 : 4;
-        } catch (IllegalStateException e) {
-            return e.getClass() == IllegalStateException.class ? 2 : 4;
-        } catch (IndexOutOfBoundsException e) {
-            return e.getClass() == IndexOutOfBoundsException.class ? 3 : 4;
-        }
-        return 0;
-    }
-
     private static void sheet() {
         HiddenRelations x = new HiddenRelations();
         int[][] bad = {{-1, 0, 1}, {3, 0, 1}, {0, -1, 1}, {0, 2, 1}, {0, 0, 41}, {0, 1, Integer.MAX_VALUE},
@@ -40,13 +26,13 @@ public final class RowsTest {
             Check.due("0", x.get(0, i), 0);
             x.put(0, i, i);
         }
-        Check.due("no place", thrown(x, 0, 40), 3);
-        Check.due("no place in none", thrown(x, 1, 0), 3);
+        Check.due("no place", Check.thrown(x, 0, 40), 3);
+        Check.due("no place in none", Check.thrown(x, 1, 0), 3);
         Check.due("a refused one", x.sheet(0, 0, -1), -14);
         Check.due("changes nothing", x.get(0, 39), 39);
         Check.due("anew", x.sheet(0, 1, 2), 1);
         Check.due("anew all 0", x.get(0, 1), 0);
-        Check.due("of 2", thrown(x, 0, 2), 3);
+        Check.due("of 2", Check.thrown(x, 0, 2), 3);
         Check.due("greater again", x.sheet(0, 1, 40), 1);
         Check.due("all 0", x.get(0, 39), 0);
         Check.due("two still", x.count(3), 2);
@@ -68,19 +54,19 @@ public final class RowsTest {
         for (int row : rows) {
             Check.due("put bad", x.put(row, 0, 1), -1);
             Check.due("put bad ahead of the place", x.put(row, 99, 1), -1);
-            Check.due("get bad", thrown(x, row, 0), 1);
-            Check.due("get bad ahead of the place", thrown(x, row, -1), 1);
+            Check.due("get bad", Check.thrown(x, row, 0), 1);
+            Check.due("get bad ahead of the place", Check.thrown(x, row, -1), 1);
         }
         Check.due("put missing", x.put(2, 0, 1), -11);
         Check.due("put missing ahead of the place", x.put(2, 99, 1), -11);
-        Check.due("get missing", thrown(x, 2, 0), 2);
-        Check.due("get missing ahead of the place", thrown(x, 2, -1), 2);
+        Check.due("get missing", Check.thrown(x, 2, 0), 2);
+        Check.due("get missing ahead of the place", Check.thrown(x, 2, -1), 2);
         int[] places = {-1, 3, 40, Integer.MIN_VALUE, Integer.MAX_VALUE};
         for (int i : places) {
             Check.due("put no place", x.put(0, i, 1), -12);
-            Check.due("get no place", thrown(x, 0, i), 3);
+            Check.due("get no place", Check.thrown(x, 0, i), 3);
         }
-        Check.due("get a place", thrown(x, 0, 2), 0);
+        Check.due("get a place", Check.thrown(x, 0, 2), 0);
     }
 
     private static HiddenRelations filled() {
